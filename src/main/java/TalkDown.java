@@ -854,14 +854,15 @@ public final class TalkDown {
             for (int dropped = 0; dropped <= told.triesAllowed(); dropped++) {
                 marked = dropped > 0 && (mendsJudged & MARK) != 0;
                 weighPick(dropped, NONE, pickOfOffer(), goal);
-                // b picks a WAY from no lesser set than that WAY alone, and a mark only makes b stop more often
+                // of all CHANGED offers only a WAY alone, unmarked, can count: b picks it from no lesser set,
+                // and a mark only makes b stop more often
                 for (int pick = 0; pick < WAYS; pick++) {
                     if (holds(hearerWays, pick) && (marked || offered != 1 << pick)) {
                         weighPick(dropped, 1 << pick, pick, goal);
                     }
                 }
                 if (Integer.bitCount(offered) < 2) {
-                    // all later TRIES offer the same, so they are only longer
+                    // later TRIES offer the same, at most marked: they only add DROPS
                     break;
                 }
                 offered &= ~(1 << greatestOf(offered));
