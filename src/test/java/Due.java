@@ -1,3 +1,6 @@
+import java.util.function.Predicate;
+import java.util.function.ToIntFunction;
+
 /** Counts and prints the answers that are not the ones that are due. */
 final class Due {
     private int wrong;
@@ -21,6 +24,23 @@ final class Due {
             wrong++;
             System.out.println(call + " answered \"" + got + "\", due is \"" + want + "\"");
         }
+    }
+
+    /** The answer of a call, and that all is as it was behind it. */
+    void idle(String call, Made made, ToIntFunction<TalkDown> asks, int want) {
+        is(call, asks.applyAsInt(made.object()), want);
+        is(call + " changes nothing", made.and(asks::applyAsInt).all(), made.all());
+    }
+
+    /** A call that is answered false, and that all is as it was behind it. */
+    void refused(String call, Made made, Predicate<TalkDown> asks) {
+        idle(call, made, x -> asks.test(x) ? 1 : 0, 0);
+    }
+
+    /** A call that is answered true, and all as it's WRITTEN behind it. */
+    void taken(String call, Made made, Predicate<TalkDown> asks, String written) {
+        is(call, asks.test(made.object()), true);
+        is(call + " is written", made.and(asks::test).written(), written);
     }
 
     void end() {

@@ -119,50 +119,64 @@ public final class RoomTest {
     }
 
     private static void answers(TalkDown x, int set, int price, int number, int many) {
-        String state = Tapes.written(x) + " cheapest of " + set;
-        DUE.is(state + ", 0", x.cheapest(set, 0), price);
-        DUE.is(state + ", 1", x.cheapest(set, 1), number);
-        DUE.is(state + ", 2", x.cheapest(set, 2), many);
-        DUE.is(state + " leaves all", Tapes.written(x), state.substring(0, state.indexOf(" cheapest of")));
+        String name = "cheapest(" + set + "), due " + price + " " + number + " " + many;
+        DUE.is(name + ": 0", x.cheapest(set, 0), price);
+        DUE.is(name + ": 1", x.cheapest(set, 1), number);
+        DUE.is(name + ": 2", x.cheapest(set, 2), many);
     }
 
     /** Against all sets of MENDS switched on one by one. */
     private static void manyRooms() {
         Random random = new Random(7);
         for (int round = 0; round < 400; round++) {
-            TalkDown x = new TalkDown();
-            for (int friend = 0; friend < 5; friend++) {
-                x.ways(friend, random.nextInt(16));
-            }
-            for (int meeting = 0; meeting < 6; meeting++) {
-                x.meet(random.nextInt(5), random.nextInt(5));
-            }
-            if (random.nextBoolean()) {
-                x.ways(random.nextInt(5), random.nextInt(16));
-            }
-            x.broken(random.nextInt(16) & random.nextInt(16));
-            x.retries(random.nextInt(4));
             int[] costs = new int[7];
-            for (int mend = 0; mend < 7; mend++) {
-                costs[mend] = random.nextInt(3) * 5;
-                x.cost(mend, costs[mend]);
-                x.mend(mend, random.nextInt(6) == 0);
-            }
-            for (int must = random.nextInt(4); must > 0; must--) {
-                x.must(random.nextInt(5), random.nextInt(5), true);
-            }
+            Made made = anyRoom(random, costs);
             int set = random.nextInt(32);
-            int number = cheapestByTrial(x, set, costs);
+            int number = cheapestByTrial(made, set, costs);
             int price = number < 0 ? -1 : sum(costs, number);
-            answers(x, set, price, number, number < 0 ? -1 : Integer.bitCount(number));
+            answers(made.object(), set, price, number, number < 0 ? -1 : Integer.bitCount(number));
         }
     }
 
-    private static int cheapestByTrial(TalkDown x, int set, int[] costs) {
+    private static Made anyRoom(Random random, int[] costs) {
+        Made made = Made.fresh();
+        for (int friend = 0; friend < 5; friend++) {
+            made = withWays(made, friend, random.nextInt(16));
+        }
+        for (int meeting = 0; meeting < 6; meeting++) {
+            int a = random.nextInt(5);
+            int b = random.nextInt(5);
+            made = made.and(x -> x.meet(a, b));
+        }
+        if (random.nextBoolean()) {
+            made = withWays(made, random.nextInt(5), random.nextInt(16));
+        }
+        int broken = random.nextInt(16) & random.nextInt(16);
+        int retries = random.nextInt(4);
+        made = made.and(x -> x.broken(broken)).and(x -> x.retries(retries));
+        for (int mend = 0; mend < 7; mend++) {
+            int which = mend;
+            boolean on = random.nextInt(6) == 0;
+            costs[mend] = random.nextInt(3) * 5;
+            made = made.and(x -> x.cost(which, costs[which])).and(x -> x.mend(which, on));
+        }
+        for (int must = random.nextInt(4); must > 0; must--) {
+            int a = random.nextInt(5);
+            int b = random.nextInt(5);
+            made = made.and(x -> x.must(a, b, true));
+        }
+        return made;
+    }
+
+    private static Made withWays(Made made, int friend, int set) {
+        return made.and(x -> x.ways(friend, set));
+    }
+
+    private static int cheapestByTrial(Made made, int set, int[] costs) {
         int best = -1;
-        String before = Tapes.written(x);
+        String before = made.written();
         for (int number = 0; number < 128; number++) {
-            if (isOffEach(number, before) && mended(x, number, set, before) && isAhead(number, best, costs)) {
+            if (isOffEach(number, before) && isMended(made.object(), number, set, before) && isAhead(number, best, costs)) {
                 best = number;
             }
         }
@@ -179,7 +193,7 @@ public final class RoomTest {
         return true;
     }
 
-    private static boolean mended(TalkDown x, int number, int set, String before) {
+    private static boolean isMended(TalkDown x, int number, int set, String before) {
         for (int mend = 0; mend < 7; mend++) {
             if ((number >> mend & 1) != 0) {
                 x.mend(mend, true);
@@ -192,11 +206,6 @@ public final class RoomTest {
             boolean both = (set >> a & 1) != 0 && (set >> b & 1) != 0;
             good &= !both || x.safe(a, b) != 0;
             good &= !before.contains("must " + a + " " + b + ";") || x.best(a, b) != -1;
-        }
-        for (int mend = 0; mend < 7; mend++) {
-            if ((number >> mend & 1) != 0) {
-                x.mend(mend, false);
-            }
         }
         return good;
     }

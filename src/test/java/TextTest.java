@@ -248,55 +248,42 @@ public final class TextTest {
     }
 
     private static void written() {
-        TalkDown x = new TalkDown();
-        x.must(4, 3, true);
-        x.must(2, 1, true);
-        x.must(1, 0, true);
-        x.must(0, 4, true);
+        Made made = Made.fresh().and(x -> x.must(4, 3, true)).and(x -> x.must(2, 1, true)).and(x -> x.must(1, 0, true))
+            .and(x -> x.must(0, 4, true));
         int[] costs = {0, 9, 11, 100, 1, 99, 20};
         for (int mend = 6; mend >= 0; mend--) {
-            x.cost(mend, costs[mend]);
-            x.mend(mend, true);
+            int which = mend;
+            made = made.and(x -> x.cost(which, costs[which])).and(x -> x.mend(which, true));
         }
-        x.retries(3);
-        x.broken(9);
-        x.ways(4, 4);
-        x.ways(3, 10);
-        x.ways(1, 1);
-        x.ways(0, 15);
-        DUE.is("written", Tapes.written(x), FULL);
-        int length = x.text(-1);
-        DUE.is("text(length)", x.text(length), -1);
-        DUE.is("text(length - 1)", x.text(length - 1), ';');
-        DUE.is("text(-2)", x.text(-2), -1);
-        DUE.is("text(least)", x.text(Integer.MIN_VALUE), -1);
-        DUE.is("text(greatest)", x.text(Integer.MAX_VALUE), -1);
-        x.cost(0, 10);
-        x.must(4, 3, false);
-        x.retries(0);
-        x.broken(0);
-        x.ways(0, 0);
-        DUE.is("written less", Tapes.written(x), FULL.replace("cost bind 0;", "").replace("must 3 4;", "")
+        made = made.and(x -> x.retries(3)).and(x -> x.broken(9)).and(x -> x.ways(4, 4)).and(x -> x.ways(3, 10))
+            .and(x -> x.ways(1, 1)).and(x -> x.ways(0, 15));
+        DUE.is("written", made.written(), FULL);
+        made = made.and(x -> x.cost(0, 10)).and(x -> x.must(4, 3, false)).and(x -> x.retries(0)).and(x -> x.broken(0))
+            .and(x -> x.ways(0, 0));
+        DUE.is("written less", made.written(), FULL.replace("cost bind 0;", "").replace("must 3 4;", "")
             .replace("retries 3;", "").replace("broken 0 3;", "").replace("friend 0 has 0 1 2 3;", ""));
     }
 
     private static void writtenAgain() {
-        TalkDown x = Tapes.told(FULL);
-        DUE.is("told and written", Tapes.written(x), FULL);
-        for (int friend = 0; friend < 5; friend++) {
-            x.ways(friend, 15);
-            for (int other = 0; other < friend; other++) {
-                x.must(friend, other, true);
+        Made made = Made.told(FULL);
+        DUE.is("told and written", made.written(), FULL);
+        for (int a = 0; a < 5; a++) {
+            int friend = a;
+            made = made.and(x -> x.ways(friend, 15));
+            for (int b = 0; b < a; b++) {
+                int other = b;
+                made = made.and(x -> x.must(friend, other, true));
             }
         }
-        x.broken(15);
+        made = made.and(x -> x.broken(15));
         for (int mend = 0; mend < 7; mend++) {
-            x.cost(mend, 100);
+            int which = mend;
+            made = made.and(x -> x.cost(which, 100));
         }
-        String longest = Tapes.written(x);
+        String longest = made.written();
         DUE.is("the longest text", longest.length(), 398);
-        DUE.is("the longest text told", Tapes.tell(x, longest), 31);
-        DUE.is("the longest text again", Tapes.written(x), longest);
+        DUE.is("the longest text told", Tapes.tell(made.object(), longest), 31);
+        DUE.is("the longest text again", made.and(x -> Tapes.tell(x, longest)).written(), longest);
     }
 
     private TextTest() {
