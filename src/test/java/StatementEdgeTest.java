@@ -37,18 +37,13 @@ public final class StatementEdgeTest {
         DUE.end();
     }
 
+    /** Each ";" of a good text ends a statement. */
     private static void good(String text, String written) {
-        TalkDown x = new TalkDown();
-        DUE.is("tells \"" + text + "\"", Tapes.tell(x, text), text.replaceAll("[^;]", "").length());
-        DUE.is("fault of \"" + text + "\"", x.fault(), -1);
-        DUE.is("written of \"" + text + "\"", Tapes.written(x), written);
+        Tapes.good(DUE, text, text.replaceAll("[^;]", "").length(), written);
     }
 
     private static void bad(String text, int place) {
-        TalkDown x = new TalkDown();
-        DUE.is("tells \"" + text + "\"", Tapes.tell(x, text), -1);
-        DUE.is("fault of \"" + text + "\"", x.fault(), place);
-        DUE.is("written of \"" + text + "\"", x.text(-1), 0);
+        Tapes.bad(DUE, text, place);
     }
 
     /** The text with a number in the place of "?": a good one, written with it. */

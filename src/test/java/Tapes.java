@@ -1,4 +1,4 @@
-/** Brings texts to an object and back as strings. */
+/** Brings texts to an object and back as strings, and asks how they were told. */
 final class Tapes {
     private static final int FED = 20;
 
@@ -40,5 +40,21 @@ final class Tapes {
             all.append((char) x.text(i));
         }
         return all.toString();
+    }
+
+    /** A text without a FAULT, told to a new object. */
+    static void good(Due due, String text, int statements, String written) {
+        TalkDown x = new TalkDown();
+        due.is("tells \"" + text + "\"", tell(x, text), statements);
+        due.is("fault of \"" + text + "\"", x.fault(), TalkDown.NONE);
+        due.is("written of \"" + text + "\"", written(x), written);
+    }
+
+    /** A text with a FAULT, told to a new object. */
+    static void bad(Due due, String text, int place) {
+        TalkDown x = new TalkDown();
+        due.is("tells \"" + text + "\"", tell(x, text), TalkDown.NONE);
+        due.is("fault of \"" + text + "\"", x.fault(), place);
+        due.is("written of \"" + text + "\"", x.text(TalkDown.NONE), 0);
     }
 }

@@ -98,16 +98,11 @@ public final class TextTest {
     }
 
     private static void good(String text, int statements, String written) {
-        TalkDown x = new TalkDown();
-        DUE.is("tells \"" + text + "\"", Tapes.tell(x, text), statements);
-        DUE.is("fault of \"" + text + "\"", x.fault(), -1);
-        DUE.is("written of \"" + text + "\"", Tapes.written(x), written);
+        Tapes.good(DUE, text, statements, written);
     }
 
     private static void bad(String text, int place) {
-        TalkDown x = new TalkDown();
-        DUE.is("tells \"" + text + "\"", Tapes.tell(x, text), -1);
-        DUE.is("fault of \"" + text + "\"", x.fault(), place);
+        Tapes.bad(DUE, text, place);
     }
 
     private static void faultsOfTokens() {
