@@ -1,16 +1,11 @@
-import java.io.IOException;
 import java.lang.reflect.Constructor;
 import java.lang.reflect.Field;
 import java.lang.reflect.Method;
 import java.lang.reflect.Modifier;
-import java.nio.file.Files;
-import java.nio.file.Path;
 import java.util.Set;
 import java.util.TreeSet;
-import java.util.regex.Matcher;
-import java.util.regex.Pattern;
 
-/** The public face, and those rules of LANGUAGE.md that can be seen from outside or by a look at the words. */
+/** The public face: every constant, constructor and method of the document, and no other. */
 public final class FaceTest {
     private static final Due DUE = new Due();
 
@@ -22,9 +17,9 @@ public final class FaceTest {
         "int lowest(int,int)", "int room(int,int)", "boolean must(int,int,boolean)", "int cheapest(int,int)"
     };
 
-    public static void main(String[] args) throws IOException {
+    public static void main(String[] args) throws NoSuchFieldException {
         members();
-        words();
+        modifiers();
         DUE.end();
     }
 
@@ -45,11 +40,23 @@ public final class FaceTest {
         Constructor<?>[] constructors = TalkDown.class.getDeclaredConstructors();
         DUE.is("constructors", constructors.length, 1);
         DUE.is("constructor's parameters", constructors[0].getParameterCount(), 0);
-        DUE.is("final", Modifier.isFinal(TalkDown.class.getModifiers()), true);
         DUE.is("NONE", TalkDown.NONE, -1);
-        for (Class<?> inside : TalkDown.class.getDeclaredClasses()) {
-            DUE.is("static " + inside, Modifier.isStatic(inside.getModifiers()), true);
+    }
+
+    private static void modifiers() throws NoSuchFieldException {
+        DUE.is("the class", Modifier.toString(TalkDown.class.getModifiers()), "public final");
+        DUE.is("its constructor", Modifier.toString(TalkDown.class.getDeclaredConstructors()[0].getModifiers()), "public");
+        Field none = TalkDown.class.getDeclaredField("NONE");
+        DUE.is("NONE's modifiers", Modifier.toString(none.getModifiers()), "public static final");
+        DUE.is("NONE's type", none.getType().toString(), "int");
+        for (Method m : TalkDown.class.getDeclaredMethods()) {
+            if (!Modifier.isPrivate(m.getModifiers())) {
+                DUE.is("modifiers of " + m.getName(), Modifier.toString(m.getModifiers()), "public");
+            }
         }
+        DUE.is("a package", TalkDown.class.getPackageName(), "");
+        DUE.is("what it is a kind of", TalkDown.class.getSuperclass() == Object.class, true);
+        DUE.is("interfaces", TalkDown.class.getInterfaces().length, 0);
     }
 
     private static String shape(Method m) {
@@ -60,14 +67,6 @@ public final class FaceTest {
         return all.append(")").toString();
     }
 
-    private static void words() throws IOException {
-        String source = Files.readString(Path.of("src/main/java/TalkDown.java"));
-        String code = source.replaceAll("(?s)/\\*.*?\\*/", "").replaceAll("//[^\n]*", "");
-        String[] refused = {"\\b(throw|try|catch|synchronized|assert|import|package)\\b", "->", "::", "Exact\\b",
-            "\\b(hashCode|toString|equals)\\b"};
-        for (String word : refused) {
-            Matcher m = Pattern.compile(word).matcher(code);
-            DUE.is("the source holds " + word, m.find(), false);
-        }
+    private FaceTest() {
     }
 }
